@@ -1003,8 +1003,8 @@ public final class FibreBench {
         }
 
         static boolean isMarked(Trace trace, int d, int slope, int threshold) {
-            int deviation = deviation(trace, d, slope);
-            return (deviation >= threshold || deviation <= -threshold)
+            int off = deviation(trace, d, slope);
+            return (off >= threshold || off <= -threshold)
                     && (trace.at(d) > FLOOR || trace.at(d - 1) > FLOOR);
         }
 

@@ -13,6 +13,9 @@ public final class EventTest {
         thresholds();
         rowsAndFloor();
         properties();
+        smallestDeviations();
+        greatestSampleLater();
+        atTheLastDistance();
         endByTheFloor();
         namedGhosts();
         ghostOfAnotherStart();
@@ -114,6 +117,56 @@ public final class EventTest {
         dueEvent(x, 0, 1, 1, 40, 42, 2, 29860 - 5000 - 30, 1500, 20, 0);
         // The width 3: 20: 2000, 21: 1700, 22: 1400, 23: 400, 24: the scattered level.
         dueEvent(x, 0, 3, 0, 20, 24, 1, 50, 2000, NONE, NONE);
+    }
+
+    private static void smallestDeviations() {
+        CHECK.promise(21, "event: deviations of 1");
+        FibreBench x = plain(20, 10);
+        x.addSection(20, 11, 0);
+        x.set(1, 1);
+        x.set(0, 11);
+        CHECK.due("a deviation of 1 is marked", x.events(0, 1), 2);
+        dueEvent(x, 0, 1, 0, 1, 20, 1, -20, -10, NONE, NONE);
+        x.set(0, 10);
+        // The second section deviates by -1 now, from 21 to the end.
+        dueEvent(x, 0, 1, 0, 21, 40, 2);
+        x.set(0, 9);
+        dueEvent(x, 0, 1, 0, 1, 40, 2);
+        FibreBench y = plain(20, 10);
+        y.begin(20, 11, 0);
+        y.addSection(20, 10, 0);
+        y.set(1, 1);
+        CHECK.due("a deviation of -1 is marked", y.events(0, 1), 2);
+        dueEvent(y, 0, 1, 0, 1, 20, 0, 20, -11, NONE, NONE);
+    }
+
+    private static void greatestSampleLater() {
+        CHECK.promise(21, "event: the greatest sample");
+        FibreBench x = plain(10, 10);
+        x.addSection(2, 10, 0);
+        x.addSection(20, 10, 0);
+        x.setJoint(1, 0, 3000);
+        x.setJoint(2, 0, 5000);
+        // 30210 before 10; 33210 there, 32210 at 11, then 30190 + 5000 at 12, and the scattered level again at 17.
+        dueEvent(x, 0, 1, 0, 10, 17, 1, 0, 35190 - 30210, NONE, NONE);
+        // At its stop the sample is the greatest of this row: a gain behind a gain, with nothing behind it.
+        FibreBench y = plain(10, 10);
+        y.addSection(1, 10, 500);
+        y.addSection(10, 10, 900);
+        dueEvent(y, 0, 1, 0, 10, 11, 1, -900, 880, NONE, NONE);
+    }
+
+    private static void atTheLastDistance() {
+        CHECK.promise(20, "events: the distance 400");
+        FibreBench x = plain(100, 1);
+        x.addSection(100, 1, 0);
+        x.addSection(100, 1, 0);
+        x.setJoint(2, 0, 9000);
+        x.setJoint(3, 0, 9000);
+        // The echo of 200 and 300 rises at 400, and nothing is seen of its fall.
+        CHECK.due("events(0, 1)", x.events(0, 1), 3);
+        dueEvent(x, 0, 1, 2, 400, 400, 1, 5000 - 44801 - 1, 44801 - 5000, 200, 0);
+        CHECK.due("endSeen(0, 1)", x.endSeen(0, 1), 300);
     }
 
     private static void endByTheFloor() {

@@ -222,7 +222,9 @@ public final class FibreTest {
         x.undo();
         CHECK.due("undo()", x.undo(), 6);
         CHECK.due("bend(0, 0) behind undo", x.bend(0, 0), 100);
+        CHECK.due("bend(0, 1) behind undo", x.bend(0, 1), 10);
         CHECK.due("bend(3, 0) behind undo", x.bend(3, 0), 104);
+        CHECK.due("bend(3, 1) behind undo", x.bend(3, 1), 14);
     }
 
     private static void setBreak() {

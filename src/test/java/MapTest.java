@@ -64,6 +64,9 @@ public final class MapTest {
         x.undo();
         CHECK.due("undo()", x.undo(), 3);
         CHECK.due("told(5)", x.told(5), 2);
+        CHECK.due("point(0, 0)", x.point(0, 0), 5);
+        CHECK.due("point(0, 1)", x.point(0, 1), 1);
+        CHECK.due("point(1, 1)", x.point(1, 1), 2);
         CHECK.due("point(1, 0)", x.point(1, 0), 9);
     }
 

@@ -168,6 +168,9 @@ public final class TraceTest {
         x.setBreak(4, 8000);
         // Ghost of 0 and the break at 8: 9000 + 16000 - 12000 - 80 above 30770.
         dueFrom(x, 0, 1, 0, 39800, 38800, 37800, 36800, 38770, 37770, 36770, 35770, 43690, 33770, 32770, 31770, FLOOR);
+        x.setBreak(1, 500);
+        dueFrom(x, 0, 1, 0, 39800, 38800, 37800);
+        dueFrom(x, 1, 1, 8, 31800, 30800 - 80 + 500, FLOOR);
         x.setBreak(9, 8000);
         // From side 1 the break is at 1; the ghost of 0 and 1 at 2: 13000 - 20 above 30800.
         dueFrom(x, 1, 1, 0, 39800, 38800, 43780, 36800, 35800, 34800, 33800, 32800, 31800, FLOOR);
@@ -276,6 +279,16 @@ public final class TraceTest {
         // The reflection at 300 is told as the first width tells it that is bright enough.
         CHECK.due("stitched(0, 300)", x.stitched(0, 300), 30300 - 8700 - 299 * 60 + 2000 - 300);
         CHECK.due("stitched(0, 301)", x.stitched(0, 301), 30900 - 8700 - 299 * 60 + 1700 - 900);
+        x.begin(10, 1, 0);
+        x.setJoint(1, 0, 2000);
+        // At 11 the width 1 is bright, at 12 and 13 the width 3, from 14 on the width 9 alone.
+        int[] added = {2000, 1000, 1400, 400, 800, 500, 200};
+        for (int k = 0; k < added.length; k++) {
+            CHECK.due("stitched(0, " + (10 + k) + ")", x.stitched(0, 10 + k), 30000 - 9 + added[k]);
+        }
+        CHECK.due("stitched(0, 17)", x.stitched(0, 17), NONE);
+        x.undo();
+        x.undo();
         x.set(3, 0);
         CHECK.due("with no margin the floor will do", x.stitched(0, 400), 4700);
         x.set(3, 9000);
