@@ -725,12 +725,17 @@ public final class FibreBench {
             points++;
         }
 
+        /** How many units of fibre 1000 of the route take; at least 1000, since it is a divisor too. */
+        int fibrePerThousand() {
+            return 1000 + Math.max(excess, 0);
+        }
+
         /** The units of fibre from the end of a point's slack to the next point. */
         int runAfter(int point) {
             if (point < 0 || point + 1 >= points) {
                 return 0;
             }
-            return (positions[point + 1] - positions[point]) * (1000 + excess) / 1000;
+            return (positions[point + 1] - positions[point]) * fibrePerThousand() / 1000;
         }
 
         int reachOf(int point) {
@@ -750,7 +755,7 @@ public final class FibreBench {
                 }
                 int run = runAfter(i);
                 if (behind < run) {
-                    return positions[i] + behind * 1000 / (1000 + excess);
+                    return positions[i] + behind * 1000 / fibrePerThousand();
                 }
                 left = behind - run;
             }
@@ -795,10 +800,10 @@ public final class FibreBench {
 
         void keep(State state) {
             if (count >= KEPT_STATES) {
-                oldest = (oldest + 1) % KEPT_STATES;
+                oldest = Math.floorMod(oldest + 1, KEPT_STATES);
                 count = KEPT_STATES - 1;
             }
-            states[(oldest + count) % KEPT_STATES].copyFrom(state);
+            states[Math.floorMod(oldest + count, KEPT_STATES)].copyFrom(state);
             count++;
         }
 
@@ -807,7 +812,7 @@ public final class FibreBench {
                 return;
             }
             count--;
-            into.copyFrom(states[(oldest + count) % KEPT_STATES]);
+            into.copyFrom(states[Math.floorMod(oldest + count, KEPT_STATES)]);
         }
     }
 
@@ -836,7 +841,7 @@ public final class FibreBench {
             for (int x = 1; x < losses.length; x++) {
                 losses[x] += losses[x - 1];
             }
-            for (int d = 0; d < levels.length; d++) {
+            for (int d = 0; d < length && d < levels.length; d++) {
                 levels[d] -= losses[d];
             }
             if (fibre.breakPlace != 0) {
