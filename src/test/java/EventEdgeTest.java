@@ -182,23 +182,9 @@ public final class EventEdgeTest {
         dueEvent(x, 0, 1, 2, 80, 81, 2, -2, rise, 40, 0);
     }
 
-    /** Falls from 5002 to the floor by 1 with each unit from 200 on; before that by 60, and by this loss more at 200. */
-    private static FibreBench downToTheFloor(int lossAt200) {
-        FibreBench x = new FibreBench();
-        x.begin(100, 60, 0);
-        x.addSection(100, 60, 0);
-        x.addSection(100, 1, 0);
-        for (int i = 0; i < 4; i++) {
-            x.addBend(150, 3000);
-        }
-        x.addBend(150, 1098);
-        x.setJoint(2, lossAt200, 0);
-        return x;
-    }
-
     private static void lastStepToTheFloor() {
         CHECK.sentence("and the sample at d or the one at d - 1 is above the floor.");
-        FibreBench x = downToTheFloor(200);
+        FibreBench x = Benches.downToTheFloor(200);
         x.set(1, 1);
         x.set(0, 0);
         // 5001 at 201 and the floor at 202; from there on nothing deviates.
@@ -306,7 +292,7 @@ public final class EventEdgeTest {
         // With the slope 1, only the bends at 150 and the loss at 200 are marked: 5002, 5001, 5000 and less are left.
         int[][] due = {{200, 0, 5002}, {201, 0, 5001}, {202, 2, 5000}, {203, 2, 5000}};
         for (int[] row : due) {
-            FibreBench x = downToTheFloor(row[0]);
+            FibreBench x = Benches.downToTheFloor(row[0]);
             x.set(0, 1);
             CHECK.due("sample(0, 1, 200)", x.sample(0, 1, 200), row[2]);
             CHECK.due("events(0, 1)", x.events(0, 1), 2);
@@ -524,11 +510,11 @@ public final class EventEdgeTest {
     private static void noEnd() {
         CHECK.sentence("BAD_VALUE; NONE if there is none.");
         // The floor is met slowly from side 0, so that no row stops on it.
-        FibreBench x = downToTheFloor(200);
+        FibreBench x = Benches.downToTheFloor(200);
         x.set(0, 1);
         CHECK.due("events(0, 1)", x.events(0, 1), 2);
         CHECK.due("endSeen(0, 1)", x.endSeen(0, 1), NONE);
-        FibreBench y = downToTheFloor(202);
+        FibreBench y = Benches.downToTheFloor(202);
         y.set(0, 1);
         CHECK.due("with a little more loss", y.endSeen(0, 1), 200);
     }

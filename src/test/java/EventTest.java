@@ -171,10 +171,7 @@ public final class EventTest {
 
     private static void endByTheFloor() {
         CHECK.promise(21, "event: a fall to the floor within the fibre");
-        FibreBench x = new FibreBench();
-        x.begin(100, 60, 0);
-        x.addSection(100, 60, 0);
-        x.addSection(100, 60, 0);
+        FibreBench x = Benches.steepest();
         x.set(0, 60);
         for (int i = 0; i < 5; i++) {
             x.addBend(200, 3000);

@@ -320,10 +320,7 @@ public final class MapEdgeTest {
 
     /** Much is lost close to this side: so it sees the floor come slowly, and the other side sees an end. */
     private static FibreBench endNotSeenFrom(int side) {
-        FibreBench x = new FibreBench();
-        x.begin(100, 60, 0);
-        x.addSection(100, 60, 0);
-        x.addSection(100, 60, 0);
+        FibreBench x = Benches.steepest();
         x.set(0, 60);
         x.setJoint(side == 0 ? 0 : 3, 3000, 0);
         for (int i = 0; i < 3; i++) {

@@ -219,10 +219,7 @@ public final class MapTest {
 
     /** From side 0, 9000 are lost at once; from side 1 at the end. */
     private static FibreBench steepFromSide0() {
-        FibreBench x = new FibreBench();
-        x.begin(100, 60, 0);
-        x.addSection(100, 60, 0);
-        x.addSection(100, 60, 0);
+        FibreBench x = Benches.steepest();
         x.set(0, 60);
         x.setJoint(0, 3000, 0);
         for (int i = 0; i < 3; i++) {

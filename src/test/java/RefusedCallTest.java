@@ -306,10 +306,7 @@ public final class RefusedCallTest {
 
     /** A fibre so deep that the light is lost slowly: no trace of it has an event. */
     private static FibreBench withoutEvents() {
-        FibreBench x = new FibreBench();
-        x.begin(100, 60, 0);
-        x.addSection(100, 60, 0);
-        x.addSection(100, 60, 0);
+        FibreBench x = Benches.steepest();
         x.set(0, 60);
         x.set(1, 5000);
         for (int i = 0; i < 6; i++) {

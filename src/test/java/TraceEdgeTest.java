@@ -112,16 +112,7 @@ public final class TraceEdgeTest {
 
     /** From side 0 the level is 4702 + 300 * w at 200 and falls by 1 with each unit from there on. */
     private static FibreBench downToTheFloor() {
-        FibreBench x = new FibreBench();
-        x.begin(100, 60, 0);
-        x.addSection(100, 60, 0);
-        x.addSection(100, 1, 0);
-        for (int i = 0; i < 4; i++) {
-            x.addBend(150, 3000);
-        }
-        x.addBend(150, 1098);
-        x.setJoint(2, 200, 0);
-        return x;
+        return Benches.downToTheFloor(200);
     }
 
     private static void floor() {

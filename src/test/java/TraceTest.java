@@ -220,10 +220,7 @@ public final class TraceTest {
 
     private static void visible() {
         CHECK.promise(17, "visible");
-        FibreBench x = new FibreBench();
-        x.begin(100, 60, 0);
-        x.addSection(100, 60, 0);
-        x.addSection(100, 60, 0);
+        FibreBench x = Benches.steepest();
         CHECK.due("to the end", x.visible(0, 1), 300);
         x.addBend(1, 3000);
         x.addBend(1, 3000);
@@ -252,10 +249,7 @@ public final class TraceTest {
 
     /** 30000 - 8700 - 60 * d, plus 300 for each unit of width, from side 0 at the distance 1 and on. */
     private static FibreBench steep() {
-        FibreBench x = new FibreBench();
-        x.begin(100, 60, 0);
-        x.addSection(100, 60, 0);
-        x.addSection(100, 60, 0);
+        FibreBench x = Benches.steepest();
         x.addBend(1, 3000);
         x.addBend(1, 3000);
         x.addBend(1, 2700);

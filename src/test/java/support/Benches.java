@@ -29,6 +29,32 @@ final class Benches {
         return x;
     }
 
+    /** As long and as steep as a fibre can be. */
+    static FibreBench steepest() {
+        FibreBench x = new FibreBench();
+        x.begin(100, 60, 0);
+        x.addSection(100, 60, 0);
+        x.addSection(100, 60, 0);
+        return x;
+    }
+
+    /**
+     * From side 0, with the width 1, the level is 5202 less this loss at 200, and falls by 1 with each unit from there
+     * on; before that it falls by 60, and by 13098 more at 150.
+     */
+    static FibreBench downToTheFloor(int lossAt200) {
+        FibreBench x = new FibreBench();
+        x.begin(100, 60, 0);
+        x.addSection(100, 60, 0);
+        x.addSection(100, 1, 0);
+        for (int i = 0; i < 4; i++) {
+            x.addBend(150, 3000);
+        }
+        x.addBend(150, 1098);
+        x.setJoint(2, lossAt200, 0);
+        return x;
+    }
+
     static FibreBench shortest() {
         return ofLengths(1);
     }
