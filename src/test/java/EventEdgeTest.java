@@ -517,6 +517,11 @@ public final class EventEdgeTest {
         FibreBench y = Benches.downToTheFloor(202);
         y.set(0, 1);
         CHECK.due("with a little more loss", y.endSeen(0, 1), 200);
+        // With a greater threshold only the bends are left, and nothing of the end that was seen before.
+        y.set(1, 300);
+        CHECK.due("events(0, 1)", y.events(0, 1), 1);
+        CHECK.due("no end any more", y.endSeen(0, 1), NONE);
+        CHECK.due("nor an event", y.event(0, 1, 1, 0), BAD_NUMBER);
     }
 
     // ---- Both sides
