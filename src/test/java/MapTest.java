@@ -20,6 +20,7 @@ public final class MapTest {
         placed();
         placedNowhere();
         placedBeyondTheFibre();
+        placedBehindTheLastReflection();
         CHECK.end();
     }
 
@@ -240,6 +241,25 @@ public final class MapTest {
             // Only side 1's end is taken from L, so side 0's has its place on a route that is long enough.
             CHECK.due("placed(1, " + side + ")", x.placed(1, side), side == 0 ? 350 : NONE);
             CHECK.due("placed(1, 2)", x.placed(1, 2), side == 0 ? x.placed(1, 1) - 350 : NONE);
+        }
+    }
+
+    /** With a high threshold the slow fall of the last reflection is no event, so the end is seen 15 behind L. */
+    private static void placedBehindTheLastReflection() {
+        CHECK.promise(32, "placed: an end that is seen behind the last reflection");
+        for (int side = 0; side < 2; side++) {
+            FibreBench x = new FibreBench();
+            x.setJoint(1 - side, 0, 9000);
+            x.set(1, 3000);
+            x.setExcess(0);
+            x.addPoint(0, 0);
+            x.addPoint(900, 0);
+            CHECK.due("the last sample above the floor", x.sample(side, 9, 114), 32320);
+            CHECK.due("endSeen of side " + side, x.endSeen(side, 9), 115);
+            CHECK.due("endSeen of the other side", x.endSeen(1 - side, 9), 100);
+            CHECK.due("placed(9, 0)", x.placed(9, 0), side == 0 ? 115 : 100);
+            CHECK.due("placed(9, 1)", x.placed(9, 1), side == 0 ? 0 : NONE);
+            CHECK.due("placed(9, 2)", x.placed(9, 2), side == 0 ? -115 : NONE);
         }
     }
 

@@ -16,6 +16,10 @@ final class Check {
         about = "promise " + number + " (" + name + ")";
     }
 
+    void rule(int number, String name) {
+        about = "LANGUAGE.md, rule " + number + " (" + name + ")";
+    }
+
     /** Tells which words of the document the next answers belong to; a test of words that do not stand there is stale. */
     void sentence(String words) {
         about = "\"" + words + "\"";
